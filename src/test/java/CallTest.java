@@ -15,6 +15,7 @@ public final class CallTest {
         icebergsInACall();
         membersTradeWithThemselves();
         bothInstrumentsApart();
+        manyInOneCall();
         Check.end();
     }
 
@@ -297,5 +298,20 @@ public final class CallTest {
         Check.due("open(1) again", market.open(1), 5);
         Check.due("position in 1", market.position(0, 1), 5);
         Check.due("position in 0", market.position(0, 0), 0);
+    }
+
+    /** Each trade fills one order alone, so that there are as many trades as there can be. */
+    private static void manyInOneCall() {
+        CallMarket market = Check.richMarket();
+        for (int order = 0; order < 60; order++) {
+            buy(market, 30, order == 0 ? 1 : 2);
+            sell(market, 30, 2);
+        }
+        indicated("120 orders", market, 30, 119, -1);
+        Check.due("open", market.open(0), 119);
+        Check.due("trades", market.trades(), 119);
+        Check.dueTrade("the last", market, 118, new int[] {118, 119, 30, 1});
+        Check.due("left of the last that sells", market.left(119), 1);
+        Check.due("the last that buys is filled", market.state(118), Check.FILLED);
     }
 }

@@ -11,6 +11,7 @@ public final class MeetingTest {
         newIcebergMeetsWithAll();
         noMeetingInACall();
         referenceOfATrade();
+        manyInOneMeeting();
         Check.end();
     }
 
@@ -181,5 +182,19 @@ public final class MeetingTest {
         market.place(0, 1, Check.sell(Check.LIMIT), 10, 1);
         market.place(1, 1, Check.buy(Check.LIMIT), 63, 1);
         Check.due("the other instrument has its own", market.indication(1, 0), 32);
+    }
+
+    private static void manyInOneMeeting() {
+        CallMarket market = Check.openMarket();
+        for (int order = 0; order < 119; order++) {
+            market.place(order % 2, 0, Check.sell(Check.LIMIT), 1 + order % 40, 1);
+        }
+        Check.due("the last order there can be", market.place(1, 0, Check.buy(Check.MARKET), 0, 99), 119);
+        Check.due("trades with each of the other's", market.trades(), 60);
+        Check.due("its rest", market.left(119), 39);
+        Check.due("its own are withdrawn", market.state(117), Check.WITHDRAWN);
+        Check.due("the other's are filled", market.state(118), Check.FILLED);
+        Check.due("none rests", market.best(0, 1), CallMarket.NOTHING);
+        Check.due("no risk of its own orders", market.risk(1), 180);
     }
 }

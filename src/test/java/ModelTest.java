@@ -19,7 +19,8 @@ public final class ModelTest {
 
     private ModelTest(int seed) {
         random = new Random(seed);
-        spread = 1 + random.nextInt(seed % 3 == 0 ? 31 : 5);
+        // Few prices make long queues, many prices make wide books; little money makes refusals.
+        spread = random.nextInt(seed % 3 == 0 ? 32 : 4);
         money = seed % 4 == 0 ? 300 : 1000000;
     }
 
@@ -31,7 +32,10 @@ public final class ModelTest {
     }
 
     private void run(int seed) {
-        for (int call = 0; call < CALLS && Check.wrongs() == 0; call++) {
+        for (int member = 0; member < 5; member++) {
+            hold("deposit", market.deposit(member, money) ? 1 : 0, model.deposit(member, money) ? 1 : 0, member, money);
+        }
+        for (int call = 5; call < CALLS && Check.wrongs() == 0; call++) {
             if (random.nextInt(2) == 0) {
                 change();
             } else {
