@@ -84,6 +84,7 @@ public final class ChangeBoundaryTest {
         Refusals.hold("4: the rest of a NOW", Refusals.BUSY + "place 0 0 buy.NOW 34 20", "cancel 0 11 = false");
     }
 
+    /** "that is resting": none is after the end of a day. */
     private static void cancelAfterSettle() {
         Refusals.hold("4: withdrawn at the end of the day", Refusals.BUSY + "settle", """
             cancel 0 2 = false
@@ -133,6 +134,7 @@ public final class ChangeBoundaryTest {
             """);
     }
 
+    /** "from 1 to what is left, less 1": where 1 is left, there is no such quantity. */
     private static void amendOfOneThatHasOneLeft() {
         Refusals.hold("5: 1 can't be made less", Refusals.BUSY + "amend 1 3 1", """
             amend 1 3 0 = BAD

@@ -121,6 +121,7 @@ public final class LookBoundaryTest {
             """);
     }
 
+    /** The same sentence for a queue in which no order waits. */
     private static void depthOfAnEmptyQueue() {
         Rows.hold("10: an empty queue shows 0", Refusals.BUSY + """
             depth 0 0 1 = 0
@@ -355,6 +356,7 @@ public final class LookBoundaryTest {
             """);
     }
 
+    /** "or it is not among the latest 100", at the second hundred. */
     private static void tradeAfterTwoHundred() {
         Rows.hold("15: 200", twentyTrades(10) + """
             trades = 200
@@ -405,6 +407,7 @@ public final class LookBoundaryTest {
         Rows.hold("15: BAD in a new object", "trade 0 4 = BAD\ntrade 0 -1 = BAD");
     }
 
+    /** No sentence of promises 9 to 19 says that a look changes something. */
     private static void looksChangeNothing() {
         String[] looks = {"best 0 0", "best 1 1", "depth 0 0 30", "ahead 3", "left 2", "state 2", "trades", "trade 2 3",
             "position 0 0", "money 0", "owed 0", "risk 0"};

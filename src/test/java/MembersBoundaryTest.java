@@ -149,6 +149,7 @@ public final class MembersBoundaryTest {
             """);
     }
 
+    /** "the money would be less than the member's risk", where that is 0 or has just become less. */
     private static void depositOfTheWholeMoney() {
         Rows.hold("2: without a risk the money can go down to 0", """
             deposit 3 7 = true

@@ -229,6 +229,7 @@ public final class PlaceBoundaryTest {
             """);
     }
 
+    /** "when the instrument is in a CALL": the phase of the other one counts for nothing. */
     private static void phaseOfTheOtherInstrument() {
         Rows.hold("3: each instrument has its own phase", RICH + """
             open 0 = 0
@@ -352,6 +353,7 @@ public final class PlaceBoundaryTest {
             """);
     }
 
+    /** The same sentence at the least and the greatest price, and where there is nothing to meet. */
     private static void postAtTheOutermostPrices() {
         Refusals.hold("3: POST to buy at 63", RICH + "open 0\nplace 1 0 sell.LIMIT 63 1",
             "place 0 0 buy.POST 63 1 = REFUSED");
@@ -408,6 +410,7 @@ public final class PlaceBoundaryTest {
             """);
     }
 
+    /** The same sentence: what was withdrawn or amended, and the other side, instrument and limits, do not count. */
     private static void allAndWhatDoesNotCount() {
         Refusals.hold("3: ALL in an empty book", RICH + "open 0", """
             place 0 0 buy.ALL 63 1 = REFUSED
@@ -470,6 +473,7 @@ public final class PlaceBoundaryTest {
         Refusals.hold("3: BAD before all others", Refusals.FILLED_UP + "close 0", "place 4 0 buy.POST 64 1 = BAD");
     }
 
+    /** The same sentence: FULL before PHASE, RISK and REFUSED. */
     private static void fullComesNext() {
         Refusals.hold("3: FULL before PHASE", Refusals.FILLED_UP + "close 0", """
             place 0 0 buy.NOW 20 1 = FULL
@@ -486,6 +490,7 @@ public final class PlaceBoundaryTest {
         Refusals.hold("3: FULL before the others", Refusals.FILLED_UP + "close 0", "place 4 0 buy.POST 40 1 = FULL");
     }
 
+    /** The same sentence: PHASE before RISK and REFUSED. */
     private static void phaseComesThen() {
         Refusals.hold("3: PHASE before RISK", Refusals.BUSY, """
             place 4 1 buy.NOW 50 1 = PHASE
@@ -500,6 +505,7 @@ public final class PlaceBoundaryTest {
         Refusals.hold("3: PHASE before both", Refusals.BUSY, "place 4 1 buy.POST 45 1 = PHASE");
     }
 
+    /** The same sentence: RISK before REFUSED. */
     private static void riskComesBeforeRefused() {
         Refusals.hold("3: RISK before REFUSED", Refusals.BUSY, """
             place 4 0 buy.POST 34 1 = RISK

@@ -93,6 +93,7 @@ public final class SettleBoundaryTest {
             """);
     }
 
+    /** The same sentence where a member owes just what it has, and more. */
     private static void moneyBelowNought() {
         String scene = """
             deposit 0 30
@@ -116,6 +117,7 @@ public final class SettleBoundaryTest {
         }
     }
 
+    /** "were owed or owed something": not those whose trades come to 0. */
     private static void answersAfterEvenTrades() {
         String bought = FIVE + """
             place 0 0 buy.LIMIT 30 6
@@ -156,6 +158,7 @@ public final class SettleBoundaryTest {
             """);
     }
 
+    /** "and this is 0 then": the second time none is owed anything. */
     private static void settleTwice() {
         Rows.hold("20: once more", Refusals.BUSY + """
             settle = 4

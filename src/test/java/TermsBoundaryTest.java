@@ -432,7 +432,7 @@ public final class TermsBoundaryTest {
             """);
     }
 
-    /** "the buyer's position grows by n and it is owed n p less, the seller's the other way round"; "the REFERENCE" */
+    /** "the buyer's position grows by n and it is owed n p less, the seller's the other way round"; "REFERENCE" */
     private static void aTradeChangesBoth() {
         Rows.hold("the least and the greatest price", OPEN + """
             place 0 0 buy.LIMIT 1 1
