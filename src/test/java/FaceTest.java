@@ -48,7 +48,8 @@ public final class FaceTest {
         }
         for (Method method : CallMarket.class.getDeclaredMethods()) {
             if (Modifier.isPrivate(method.getModifiers())) {
-                Check.due("private " + method.getName() + " bears a public name", names.contains(method.getName()), false);
+                String name = method.getName();
+                Check.due("private " + name + " bears a public name", names.contains(name), false);
             } else {
                 Check.due(written(method) + " is of the face", due.remove(written(method)), true);
                 Check.due(method + " is public", Modifier.isPublic(method.getModifiers()), true);

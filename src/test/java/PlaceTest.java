@@ -48,7 +48,8 @@ public final class PlaceTest {
         Check.due("buy with limit 0", market.place(1, 0, Check.buy(Check.MARKET), 0, 1), 2);
         Check.due("buy with the least limit", market.place(1, 0, Check.buy(Check.MARKET), Integer.MIN_VALUE, 1), 3);
         Check.due("sell with limit 64", market.place(1, 0, Check.sell(Check.MARKET), 64, 1), 4);
-        Check.due("sell with the greatest limit", market.place(1, 0, Check.sell(Check.MARKET), Integer.MAX_VALUE, 1), 5);
+        Check.due("sell with the greatest limit",
+            market.place(1, 0, Check.sell(Check.MARKET), Integer.MAX_VALUE, 1), 5);
         Check.due("buy with a limit that would not do", market.place(1, 0, Check.buy(Check.MARKET), 1, 1), 6);
         Check.due("sell with a limit that would not do", market.place(1, 0, Check.sell(Check.MARKET), 63, 1), 7);
         for (int order = 0; order < 8; order++) {
